@@ -1893,9 +1893,8 @@ public final class LendHouse {
 
         private static void beginOrders(House house) {
             for (int lot = 0; lot < house.lots.size; lot++) {
-                int steel = house.needOfAll(lot, SORT_STEEL);
-                if (house.isOrderNotBegun(lot) && steel <= house.steel) {
-                    house.steel -= steel;
+                if (house.isOrderNotBegun(lot) && house.needOfAll(lot, SORT_STEEL) <= house.steel) {
+                    house.steel -= house.needOfAll(lot, SORT_STEEL);
                     house.lots.set(lot, LOT_BEGUN, 1);
                 }
             }
@@ -1905,9 +1904,8 @@ public final class LendHouse {
             int free = house.hands;
             for (int lot = 0; lot < house.lots.size; lot++) {
                 boolean atWork = house.crates(lot, WORK) > 0 && house.lots.get(lot, LOT_BEGUN) == 1;
-                int hands = house.needOfAll(lot, SORT_HANDS);
-                if (atWork && hands <= free) {
-                    free -= hands;
+                if (atWork && house.needOfAll(lot, SORT_HANDS) <= free) {
+                    free -= house.needOfAll(lot, SORT_HANDS);
                     workOn(house, lot);
                 }
             }
@@ -1986,8 +1984,8 @@ public final class LendHouse {
         private static int useSort(House house, int land, int sort, int most) {
             int used = 0;
             for (int lot = 0; lot < house.lots.size && used < most; lot++) {
-                if (house.lots.get(lot, LOT_LAND) == land && house.lots.get(lot, LOT_SORT) == sort
-                        && house.isLent(lot)) {
+                if (house.crates(lot, LANDED) > 0 && house.lots.get(lot, LOT_LAND) == land
+                        && house.lots.get(lot, LOT_SORT) == sort && house.isLent(lot)) {
                     int n = Math.min(most - used, house.crates(lot, LANDED));
                     house.move(lot, n, LANDED, USED);
                     used += n;
@@ -2209,6 +2207,8 @@ public final class LendHouse {
     /** The SHIPS at home, each sent to a LAND or to none so that the least is lost. */
     private static final class Hulls {
         private static final int MOST_SHIPS = 6;
+        // more than any way loses
+        private static final int NO_WAY = 1000000000;
         private final int[] ships;
         private final int[] holds;
         private final int[] goal;
@@ -2229,7 +2229,7 @@ public final class LendHouse {
 
         void plan(House house) {
             shipCount = 0;
-            least = Integer.MAX_VALUE;
+            least = NO_WAY;
             int free = 0;
             for (int ship = 0; ship < house.ships.size; ship++) {
                 if (house.ships.get(ship, SHIP_STATE) == AT_HOME && shipCount < ships.length
@@ -2247,7 +2247,10 @@ public final class LendHouse {
             send(0, free, 0);
         }
 
-        /** LANDS in their order and only what is better: so of several alike the first one stays. */
+        /**
+         * LANDS in their order and only what is better: so of several alike the first one stays. A LAND that lacks
+         * nothing is passed over: none in its place loses no more, and comes first.
+         */
         private void send(int i, int free, int lost) {
             if (lost >= least || lacking() > free) {
                 return;
@@ -2258,10 +2261,12 @@ public final class LendHouse {
                 return;
             }
             for (int land = 0; land < lacks.length && land < risks.length; land++) {
-                goal[i] = land;
-                lacks[land] -= holds[i];
-                send(i + 1, free - holds[i], lost + holds[i] * risks[land]);
-                lacks[land] += holds[i];
+                if (land == 0 || lacks[land] > 0) {
+                    goal[i] = land;
+                    lacks[land] -= holds[i];
+                    send(i + 1, free - holds[i], lost + holds[i] * risks[land]);
+                    lacks[land] += holds[i];
+                }
             }
         }
 
@@ -2274,11 +2279,11 @@ public final class LendHouse {
         }
 
         int leastLost() {
-            return least == Integer.MAX_VALUE ? NONE : least;
+            return least == NO_WAY ? NONE : least;
         }
 
         int landOf(int ship) {
-            if (least == Integer.MAX_VALUE) {
+            if (least == NO_WAY) {
                 return NONE;
             }
             for (int i = 0; i < shipCount && i < ships.length && i < best.length; i++) {

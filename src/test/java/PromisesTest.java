@@ -451,6 +451,29 @@ public final class PromisesTest {
         marked("lend;owe 5;give", 0);
     }
 
+    private static void factsOfLands() {
+        part = "facts of a land";
+        LendHouse x = landed(20, "lend;give if to>3 and had>19 and hunger>8 and week>3 and land<2 and crates<2"
+                + " and tons>2 and price>6 and sort<1");
+        x.sort(0, 3, 0, 0, 1);
+        x.need(1, 7, 9);
+        x.weeks(2);
+        x.price(0, 4, 7);
+        due("to 3", NONE, x.give(1, 1, 3, false));
+        due("two crates", NONE, x.give(1, 2, 4, false));
+        due("all of it holds", 2, x.give(1, 1, 4, false));
+        act(x, 4, "mark 1 if had>19;mark 2 if had>20;mark 4 if hunger>17;mark 8 if hunger>18;mark 16 if week>3"
+                + ";mark 32 if week>4;mark 64 if to<1");
+        x.ask(1, 0, 5, 0);
+        x.ask(4, 0, 5, 0);
+        x.ask(1, 1, 5, 0);
+        due("land 1", 1 + 4 + 16 + 64, x.weigh(1, 0));
+        due("land 4, to which some was given on", 16 + 64, x.weigh(2, 0));
+        due("land 1, another sort", 4 + 16 + 64, x.weigh(3, 0));
+        x.back(1, 1, 30);
+        due("back goods did not land there by a ship", 4 + 16 + 64, x.weigh(3, 0));
+    }
+
     private static void requests() {
         part = "12 ask, 13 weigh";
         LendHouse x = new LendHouse();
@@ -560,6 +583,16 @@ public final class PromisesTest {
         x.over();
         thrown("behind the end", STATE, () -> x.allot(0));
         thrown("behind the end, no sort", INDEX, () -> x.allot(8));
+
+        LendHouse all = new LendHouse();
+        act(all, 0, "lend");
+        all.order(0, 61);
+        for (int i = 0; i < 60; i++) {
+            all.ask(1, 0, 1, 0);
+        }
+        all.weeks(1);
+        due("sixty requests at once", 60, all.allot(0));
+        due("the last one", 0, all.weigh(59, 4));
 
         LendHouse y = new LendHouse();
         act(y, 0, "lend");
@@ -1289,6 +1322,12 @@ public final class PromisesTest {
         due("2 is first now", 0, x.bestOrders());
         x.works(1000, 1000);
         due("2 and 3", 3, x.bestOrders());
+
+        LendHouse y = new LendHouse();
+        y.order(0, 1);
+        due("worth nothing: the least bits", 0, y.bestOrders());
+        y.price(0, 0, 1);
+        due("worth one", 1, y.bestOrders());
     }
 
     private static void pages() {
@@ -1372,6 +1411,16 @@ public final class PromisesTest {
         due("choice 9", NONE, x.choice(0, 0, 0, 0));
         thrown("choice 9 wrong", ARGUMENT, () -> x.choice(0, 5, 0, 0));
         due("it stays", 132, x.lasts());
+
+        LendHouse y = new LendHouse();
+        y.choice(10, 0, 1, 0);
+        y.choice(12, 1, 1, 0);
+        for (int row = 0; row < 3; row++) {
+            for (int year = 0; year < 5; year++) {
+                y.row(row, year, 12, year / 4, 0);
+            }
+        }
+        due("48 in four years is less than 50 in five", 2, y.lasts());
     }
 
     private static void cash() {
@@ -1546,6 +1595,42 @@ public final class PromisesTest {
         due("must be", 1, x.mustBe(1, 0, 11));
     }
 
+    private static void imagesBesideUndo() {
+        part = "46 undo, 48 again";
+        LendHouse x = landed(90, "lend");
+        x.need(1, 0, 1);
+        x.weeks(10);
+        x.weeks(50);
+        act(x, 62, "lend;lend");
+        x.keep();
+        due("must be", 80, x.mustBe(1, 0, 12));
+        yes("undo", x.undo());
+        due("the act is told no more", 1, x.count(3));
+        due("another act", 3, act(x, 12, "lend;lend;lend"));
+        x.need(1, 0, 40);
+        x.weeks(3);
+        due("must be", 40, x.mustBe(1, 0, 13));
+        yes("again", x.again());
+        due("the act of the image", 2, x.count(4));
+        due("must be", 79, x.mustBe(1, 0, 13));
+        due("must be", 31, x.mustBe(1, 0, 61));
+        due("must be now", 30, x.mustBe(1, 0, 62));
+        x.need(1, 0, 0);
+        for (int i = 0; i < 8; i++) {
+            x.weeks(60);
+        }
+        due("the last week", 500, x.count(0));
+        due("must be", 31, x.mustBe(1, 0, 61));
+        due("must be", 30, x.mustBe(1, 0, 499));
+        due("must be now", 30, x.mustBe(1, 0, 500));
+        x.over();
+        due("must be now", 0, x.mustBe(1, 0, 500));
+        due("must be", 30, x.mustBe(1, 0, 499));
+        x.keep();
+        yes("again", x.again());
+        due("must be", 30, x.mustBe(1, 0, 499));
+    }
+
     private static void counts() {
         part = "49 count";
         LendHouse x = landed(10, "lend;give");
@@ -1584,6 +1669,7 @@ public final class PromisesTest {
         acts();
         faults();
         conditions();
+        factsOfLands();
         requests();
         allotments();
         allotmentsInOrder();
@@ -1609,6 +1695,7 @@ public final class PromisesTest {
         tornRows();
         undos();
         images();
+        imagesBesideUndo();
         counts();
         System.out.println(wrong == 0 ? "all answers are as due" : wrong + " answers are not as due");
         if (wrong != 0) {
