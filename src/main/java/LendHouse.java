@@ -39,7 +39,8 @@ public final class LendHouse {
     private static final int LOT_WRONG = 9;
     private static final int LOT_PLACE = 10;
     private static final int LOT_OWE = LOT_PLACE + PLACES;
-    private static final int LOT_CELLS = LOT_OWE + 1;
+    private static final int LOT_PRICE = LOT_OWE + 1;
+    private static final int LOT_CELLS = LOT_PRICE + 1;
 
     // columns of a SORT
     private static final int SORT_TONS = 0;
@@ -1724,7 +1725,9 @@ public final class LendHouse {
             takeFromStock(sort, n);
             int lot = addLot(sort, n, requests.get(request, ASK_LAND), PORT);
             lots.set(lot, LOT_ALLOTTED, week);
+            // PRICE and owe stay as they are now: what is told later in this WEEK changes nothing for this LOT
             lots.set(lot, LOT_OWE, owe);
+            lots.set(lot, LOT_PRICE, priceIn(sort, week));
             requests.raise(request, ASK_HAS, n);
         }
 
@@ -2076,8 +2079,7 @@ public final class LendHouse {
 
         private static long owedFor(House house, int lot) {
             long crates = house.lots.get(lot, LOT_CRATES) - house.crates(lot, RETURNED) - house.crates(lot, LEFT);
-            int price = house.priceIn(house.lots.get(lot, LOT_SORT), house.lots.get(lot, LOT_ALLOTTED));
-            return crates * price * house.lots.get(lot, LOT_OWE) / 100;
+            return crates * house.lots.get(lot, LOT_PRICE) * house.lots.get(lot, LOT_OWE) / 100;
         }
 
         static int lentAt(House house, int land, int place) {
@@ -2191,9 +2193,8 @@ public final class LendHouse {
         static int firstNotPaid(House house, int[] coin) {
             for (int lot = 0; lot < house.lots.size; lot++) {
                 int land = house.lots.get(lot, LOT_LAND);
-                int week = house.lots.get(lot, LOT_ALLOTTED);
-                if (week != NONE && land >= 0 && land < coin.length) {
-                    int due = house.lots.get(lot, LOT_CRATES) * house.priceIn(house.lots.get(lot, LOT_SORT), week);
+                if (house.lots.get(lot, LOT_ALLOTTED) != NONE && land >= 0 && land < coin.length) {
+                    int due = house.lots.get(lot, LOT_CRATES) * house.lots.get(lot, LOT_PRICE);
                     if (due > coin[land]) {
                         return lot;
                     }

@@ -224,6 +224,7 @@ final class PlainModel {
         int source = -1;
         boolean wrong;
         int owe;
+        long price;
         final List<Crate> crates = new ArrayList<>();
 
         boolean lent() {
@@ -872,6 +873,7 @@ final class PlainModel {
             Lot lot = s.lots.get(newLot(sort, r.land, n, 1));
             lot.allotted = s.week;
             lot.owe = mostOf(holding("owe", f));
+            lot.price = latest(s.prices, sort, s.week);
             r.has += n;
             all += n;
         }
@@ -1145,7 +1147,7 @@ final class PlainModel {
         for (Lot l : s.lots) {
             if (l.land == land && l.lent() && l.allotted >= 0) {
                 long crates = l.crates.size() - l.at(7) - l.at(8);
-                sum += crates * latest(s.prices, l.sort, l.allotted) * l.owe / 100;
+                sum += crates * l.price * l.owe / 100;
             }
         }
         return sum;
@@ -1327,7 +1329,7 @@ final class PlainModel {
         for (int i = 0; i < s.lots.size(); i++) {
             Lot l = s.lots.get(i);
             if (l.lent() && l.allotted >= 0) {
-                left[l.land] -= (long) l.crates.size() * latest(s.prices, l.sort, l.allotted);
+                left[l.land] -= l.crates.size() * l.price;
                 if (left[l.land] < 0) {
                     return i;
                 }

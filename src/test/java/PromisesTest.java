@@ -1063,12 +1063,40 @@ public final class PromisesTest {
         due("landed", 0, y.land(1, 3));
         due("not landed of 2 is owed still", 6, y.land(2, 2));
 
-        LendHouse z = lent(100, "lend;owe 100");
+        owedAsAllotted();
+    }
+
+    /** PRICE and owe LINES that are told in the WEEK of the allotment, ahead of it and behind it. */
+    private static void owedAsAllotted() {
+        LendHouse z = new LendHouse();
+        act(z, 0, "lend;owe 50");
+        z.order(0, 3);
+        z.weeks(1);
+        z.price(0, 1, 8);
         z.price(0, 1, 10);
-        due("the price of that week, as it was told last", 1000, z.land(1, 2));
+        z.ask(1, 0, 1, 0);
+        z.ask(1, 0, 1, 1);
+        due("one as by the latest telling ahead", 2, z.allot(0));
+        due("owed", 10, z.land(1, 2));
+        z.price(0, 1, 30);
+        due("what is told behind it does not count", 10, z.land(1, 2));
+        act(z, 1, "lend;owe 100");
+        due("nor does a later act of that week", 10, z.land(1, 2));
+        z.ask(1, 0, 1, 2);
+        due("one more in the same week", 1, z.allot(0));
+        due("by the price and the line of now", 40, z.land(1, 2));
+        z.price(0, 1, 0);
         z.weeks(1);
         z.price(0, 2, 20);
-        due("not that of another week", 1000, z.land(1, 2));
+        due("not that of another week", 40, z.land(1, 2));
+        z.keep();
+        z.weeks(1);
+        yes("again", z.again());
+        due("the image has it", 40, z.land(1, 2));
+
+        LendHouse none = lent(100, "lend;owe 100");
+        none.price(0, 1, 10);
+        due("no price was told as it was allotted", 0, none.land(1, 2));
     }
 
     private static void returns() {
@@ -1457,6 +1485,24 @@ public final class PromisesTest {
         y.give(1, 4, 2, true);
         y.price(0, 2, 5);
         due("what is given on is not paid", NONE, y.cash(0, 0, 0, 0, 0));
+
+        LendHouse z = new LendHouse();
+        act(z, 0, "lend");
+        z.order(0, 4);
+        z.price(0, 1, 10);
+        z.weeks(1);
+        z.ask(1, 0, 2, 0);
+        z.allot(0);
+        z.price(0, 1, 0);
+        z.ask(1, 0, 1, 0);
+        z.allot(0);
+        z.price(0, 1, 50);
+        z.ask(1, 0, 1, 0);
+        z.allot(0);
+        z.price(0, 1, 1000);
+        due("as allotted: 20", 1, z.cash(19, 0, 0, 0, 0));
+        due("as allotted: 20, 0, 50", 3, z.cash(69, 0, 0, 0, 0));
+        due("enough as allotted", NONE, z.cash(70, 0, 0, 0, 0));
     }
 
     private static void tornRows() {
