@@ -2,10 +2,14 @@ import java.util.ArrayList;
 import java.util.Arrays;
 import java.util.List;
 
-/** Long rows of drawn calls on a LendHouse and on the PlainModel: every answer must be the same. */
+/**
+ * Long rows of drawn calls on a LendHouse and on the PlainModel: every answer must be the same. A house is asked at most
+ * 512 times: what is looked at in the end is looked at in houses for which the row is done again.
+ */
 public final class ModelTest {
     private static final int RUNS = 160;
-    private static final int CALLS = 500;
+    private static final int CALLS = 400;
+    private static final int LOOKS_AT_ONE_HOUSE = 60;
     private static final String[] FACTS = {"land", "sort", "week", "crates", "tons", "price", "had", "hunger",
         "rocks", "to"};
 
@@ -13,6 +17,10 @@ public final class ModelTest {
     private LendHouse house;
     private PlainModel model;
     private final List<String> told = new ArrayList<>();
+    private final List<String> names = new ArrayList<>();
+    private final List<int[]> arguments = new ArrayList<>();
+    private final List<String> lookNames = new ArrayList<>();
+    private final List<int[]> lookArguments = new ArrayList<>();
     private boolean wrong;
     // what kinds of call are drawn more often differs from run to run
     private int bias;
@@ -108,7 +116,14 @@ public final class ModelTest {
     private Object both(String name, int... a) {
         Object want = model.call(name, a);
         Object got = onHouse(name, a);
+        names.add(name);
+        arguments.add(a);
         told.add(name + Arrays.toString(a) + " => " + want);
+        compare(name, a, want, got);
+        return want;
+    }
+
+    private void compare(String name, int[] a, Object want, Object got) {
         if (!want.equals(got) && !wrong) {
             wrong = true;
             System.out.println(name + Arrays.toString(a) + " answered " + got + ", due is " + want + ", behind:");
@@ -116,7 +131,10 @@ public final class ModelTest {
                 System.out.println("  " + line);
             }
         }
-        return want;
+    }
+
+    private int counted(int what) {
+        return (int) (long) (Long) model.call("count", what);
     }
 
     /** Mostly within bounds, sometimes at them or just outside, seldom far away. */
@@ -146,7 +164,7 @@ public final class ModelTest {
     }
 
     private int lots() {
-        return house.count(1);
+        return counted(1);
     }
 
     private int aLot() {
@@ -155,11 +173,11 @@ public final class ModelTest {
     }
 
     private int aShip() {
-        return chance(97) ? draw(Math.max(1, house.count(6))) : near(0, 11);
+        return chance(97) ? draw(Math.max(1, counted(6))) : near(0, 11);
     }
 
     private int aWeekOn() {
-        return chance(90) ? house.count(0) + draw(4) : near(0, 500);
+        return chance(90) ? counted(0) + draw(4) : near(0, 500);
     }
 
     private int crates() {
@@ -260,7 +278,7 @@ public final class ModelTest {
     }
 
     private void change() {
-        int week = house.count(0);
+        int week = counted(0);
         switch (draw(38)) {
             case 0: both("sort", aSort(), near(1, 5), near(0, 3), near(0, 3), near(1, 3)); break;
             case 1: both("price", aSort(), aWeekOn(), near(0, chance(80) ? 20 : 1000)); break;
@@ -305,7 +323,7 @@ public final class ModelTest {
             case 3: both("led", aShip(), near(0, 5)); break;
             case 4: case 5: case 6: both("land", aLand(), near(0, 7)); break;
             case 7: both("balance", aLand(), near(0, 2), near(0, 30)); break;
-            case 8: both("mustBe", aLand(), aSort(), near(0, house.count(0))); break;
+            case 8: both("mustBe", aLand(), aSort(), near(0, counted(0))); break;
             case 9: both("whence", aLand(), aSort(), draw(2)); break;
             case 10: both("net", near(0, 5)); break;
             case 11: both("hulls", near(-1, 11)); break;
@@ -317,43 +335,71 @@ public final class ModelTest {
         }
     }
 
+    private void see(String name, int... a) {
+        lookNames.add(name);
+        lookArguments.add(a);
+    }
+
     private void lookAtAll() {
+        lookNames.clear();
+        lookArguments.clear();
+        collectLooks();
+        int row = names.size();
+        for (int at = 0; at < lookNames.size() && !wrong; at++) {
+            if (at % LOOKS_AT_ONE_HOUSE == 0) {
+                doRowAgain(row);
+            }
+            Object want = model.call(lookNames.get(at), lookArguments.get(at));
+            Object got = onHouse(lookNames.get(at), lookArguments.get(at));
+            compare(lookNames.get(at), lookArguments.get(at), want, got);
+        }
+        doRowAgain(row);
+    }
+
+    private void doRowAgain(int calls) {
+        house = new LendHouse();
+        for (int i = 0; i < calls; i++) {
+            onHouse(names.get(i), arguments.get(i));
+        }
+    }
+
+    private void collectLooks() {
         for (int what = 0; what <= 20; what++) {
-            both("count", what);
+            see("count", what);
         }
         for (int lot = 0; lot < lots(); lot++) {
             for (int what = 0; what <= 18; what++) {
-                both("lot", lot, what);
+                see("lot", lot, what);
             }
         }
         for (int request = 0; request < 60 && !(model.call("weigh", request, 3) instanceof String); request++) {
             for (int what = 0; what <= 5; what++) {
-                both("weigh", request, what);
+                see("weigh", request, what);
             }
         }
-        for (int ship = 0; ship < house.count(6); ship++) {
-            both("hulls", ship);
+        for (int ship = 0; ship < counted(6); ship++) {
+            see("hulls", ship);
             for (int what = 0; what <= 5; what++) {
-                both("led", ship, what);
+                see("led", ship, what);
             }
         }
-        both("hulls", -1);
+        see("hulls", -1);
         for (int land = 1; land <= 5; land++) {
             for (int what = 0; what <= 7; what++) {
-                both("land", land, what);
+                see("land", land, what);
             }
             for (int what = 0; what <= 2; what++) {
-                both("balance", land, what, house.count(0));
+                see("balance", land, what, counted(0));
             }
             for (int sort = 0; sort <= 7; sort++) {
-                both("whence", land, sort, 0);
-                both("whence", land, sort, 1);
-                both("mustBe", land, sort, draw(house.count(0) + 1));
+                see("whence", land, sort, 0);
+                see("whence", land, sort, 1);
+                see("mustBe", land, sort, draw(counted(0) + 1));
             }
         }
-        both("check");
-        both("lasts");
-        both("bestOrders");
+        see("check");
+        see("lasts");
+        see("bestOrders");
     }
 
     private boolean run(int number) {
@@ -369,7 +415,7 @@ public final class ModelTest {
             both("end", 28);
             both("act", 0);
         }
-        for (int i = 0; i < CALLS && !wrong; i++) {
+        while (names.size() < CALLS && !wrong) {
             if (chance(70)) {
                 change();
             } else {
