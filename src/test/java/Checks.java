@@ -396,6 +396,22 @@ abstract class Checks {
         return x;
     }
 
+    /** So many crates of a SORT lent to a LAND as LOT 1 and landed there at WEEK 2 by SHIP 0. */
+    static LendHouse landedOf(int land, int sort, int crates, String text) {
+        LendHouse x = new LendHouse();
+        act(x, 0, text);
+        x.order(sort, crates);
+        x.ask(land, sort, crates, 0);
+        x.weeks(1);
+        due("allot ahead", crates, x.allot(sort));
+        x.ship(5000, 0);
+        x.way(land, 1);
+        yes("load ahead", x.load(0, 1, crates));
+        yes("sail ahead", x.sail(0, land));
+        x.weeks(1);
+        return x;
+    }
+
     /** A house at WEEK 4 with something of everything. */
     static void busy(LendHouse x) {
         act(x, 0, "mark 3;mark 2 if hunger>2;lend;owe 40;owe 60 if crates>15;give if to<3");

@@ -189,6 +189,37 @@ public final class LendingEdgesTest extends Checks {
         due("open", 1, w.count(5));
         due("left in the port", 5, w.lot(0, 11));
         due("an empty stock", 0, w.allot(1));
+        LendHouse v = new LendHouse();
+        act(v, 0, "lend");
+        for (int sort = 0; sort <= 7; sort++) {
+            v.order(sort, 9);
+            v.ask(1, 7 - sort, 1 + sort, 0);
+        }
+        v.weeks(1);
+        for (int sort = 7; sort >= 0; sort--) {
+            due("allot of SORT " + sort, 8 - sort, v.allot(sort));
+            due("its REQUEST has all", 0, v.weigh(7 - sort, 4));
+            due("open", sort, v.count(5));
+            due("left of it", 9 - (8 - sort), v.lot(sort, 11));
+            due("the new LOT's SORT", sort, v.lot(v.count(1) - 1, 0));
+        }
+        sentence("ALLOT: by MARK, by how many crates are asked for in all");
+        LendHouse u = stocked(6, "lend;mark 5 if crates>9;mark 3 if crates<6");
+        u.ask(1, 0, 10, 7);
+        u.ask(2, 0, 8, 0);
+        due("to the one that asked for 10", 6, u.allot(0));
+        due("it has", 6, u.weigh(0, 3));
+        u.ask(3, 0, 5, 0);
+        u.order(0, 3);
+        u.weeks(1);
+        due("to the same one, that lacks 4 of 10", 3, u.allot(0));
+        due("it has", 9, u.weigh(0, 3));
+        u.order(0, 7);
+        u.weeks(1);
+        due("then the one that asked for 5, then that for 8", 7, u.allot(0));
+        due("has all", 10, u.weigh(0, 3));
+        due("has all", 5, u.weigh(2, 3));
+        due("has what is left", 1, u.weigh(1, 3));
     }
 
     private static void allotAsMuch() {
@@ -333,6 +364,10 @@ public final class LendingEdgesTest extends Checks {
         no("none is there", x.label(1, 4));
         due("the label stays", 3, x.lot(1, 7));
         no("the same one", x.label(1, 3));
+        LendHouse y = lent(3, "lend");
+        y.over();
+        yes("behind THE END, too", y.label(1, 9));
+        due("the label", 9, y.lot(1, 7));
     }
 
     private static void gifts() {
@@ -393,12 +428,72 @@ public final class LendingEdgesTest extends Checks {
         due("to 4", NONE, x.give(1, 3, 4, false));
         due("all of it holds", 2, x.give(1, 3, 3, false));
         due("not from 3", NONE, x.give(2, 3, 1, false));
+        sentence("FACTS: sort: of what is given on");
+        for (int sort = 0; sort <= 7; sort++) {
+            LendHouse y = landedOf(2, sort, 6, "lend;give if sort<" + (sort + 1) + (sort > 0 ? " and sort>" + (sort - 1) : ""));
+            due("give of SORT " + sort, 2, y.give(1, 2, 3, false));
+            due("its SORT", sort, y.lot(2, 0));
+            act(y, 2, "give if sort>" + sort);
+            due("a greater SORT is meant", NONE, y.give(1, 2, 3, false));
+            y.seen(3, sort, 9);
+            due("given on there of that SORT", 7, y.whence(3, sort, false));
+        }
         sentence("FACTS: to: 0 but for give");
         act(x, 2, "mark 1 if to<1;lend if to<1;owe 9 if to<1;mark 2 if to>0");
         x.ask(2, 0, 1, 0);
         due("mark", 1, x.weigh(1, 0));
         due("lend", 1, x.weigh(1, 2));
         due("owe", 9, x.weigh(1, 5));
+    }
+
+    private static void secondLots() {
+        sentence("OWED, BALANCE: of all LOTS of a LAND together");
+        LendHouse x = new LendHouse();
+        act(x, 0, "lend;owe 10");
+        x.price(0, 0, 10);
+        x.order(0, 30);
+        x.ask(1, 0, 10, 0);
+        x.ask(1, 0, 7, 1);
+        x.ask(2, 0, 5, 2);
+        x.weeks(1);
+        x.allot(0);
+        x.way(1, 1);
+        x.way(2, 1);
+        x.ship(100, 0);
+        x.ship(100, 0);
+        x.load(0, 1, 10);
+        x.load(0, 2, 7);
+        x.load(1, 3, 5);
+        x.sail(0, 1);
+        x.sail(1, 2);
+        x.weeks(1);
+        due("owed", 17, x.land(1, 2));
+        due("owed by the other", 5, x.land(2, 2));
+        due("balance", 17, x.balance(1, 2, 0));
+        due("landed", 17, x.land(1, 3));
+        due("must be, as now", 17, x.mustBe(1, 0, 2));
+        x.need(1, 0, 12);
+        x.weeks(1);
+        due("must be, at the end of a WEEK that is over", 17, x.mustBe(1, 0, 2));
+        due("must be, of the other LAND", 5, x.mustBe(2, 0, 2));
+        due("must be, as now", 5, x.mustBe(1, 0, 3));
+        due("used of the first LOT", 10, x.lot(1, 14));
+        due("used of the second LOT", 2, x.lot(2, 14));
+        x.back(1, 0, 2);
+        x.back(1, 0, 3);
+        x.back(2, 0, 4);
+        x.load(0, 4, 2);
+        x.load(0, 5, 3);
+        x.load(1, 6, 4);
+        x.sail(0, 0);
+        x.weeks(1);
+        due("two BACK LOTS have come back", 12, x.balance(1, 2, 0));
+        due("none of the other LAND", 5, x.balance(2, 2, 0));
+        x.sail(1, 0);
+        x.weeks(1);
+        due("one of the other LAND", 1, x.balance(2, 2, 0));
+        due("no more of the first", 12, x.balance(1, 2, 0));
+        due("of a third LAND", 0, x.balance(3, 2, 0));
     }
 
     private static void backLots() {
@@ -573,6 +668,7 @@ public final class LendingEdgesTest extends Checks {
         labels();
         gifts();
         giveFacts();
+        secondLots();
         backLots();
         owed();
         balances();

@@ -220,12 +220,46 @@ public final class PlanningEdgesTest extends Checks {
         due("in the port", 100000, z.count(13));
     }
 
+    private static void manyCalls() {
+        sentence("an object is used for at most 512 calls: the 512th is answered still");
+        LendHouse x = new LendHouse();
+        for (int i = 0; i < 100; i++) {
+            x.order(0, 1000);
+            x.price(0, i, i);
+            x.feed(0x20202020, 0x20202020, 0x20202020, 0x20202020, 0x20202020);
+            x.keep();
+            x.weeks(1);
+        }
+        for (int i = 500; i < 511; i++) {
+            due("week", 100, x.count(0));
+        }
+        due("the 512th call", 100000, x.count(13));
+        LendHouse y = new LendHouse();
+        for (int i = 0; i < 170; i++) {
+            y.feed(0x6c656e64, 0x3b6c656e, 0x643b6c65, 0x6e643b6d, 0x61726b20);
+            y.end(14);
+            readOrRefuse(y, i);
+        }
+        due("lines", 3, y.count(4));
+        due("the 512th call", 10, y.count(3));
+    }
+
+    private static void readOrRefuse(LendHouse x, int acts) {
+        try {
+            due("act", 3, x.act(0));
+            due("it is one of ten", 1, bit(acts < 10));
+        } catch (UnsupportedOperationException e) {
+            due("it is none of ten", 0, bit(acts < 10));
+        }
+    }
+
     public static void main(String[] args) {
         pages();
         signed();
         choices();
         lasts();
         counts();
+        manyCalls();
         finish();
     }
 }

@@ -300,10 +300,65 @@ public final class ShippingEdgesTest extends Checks {
         x.sail(0, 0);
         x.weeks(2);
         due("come back", 9, x.count(19));
+        sentence("19: crates of a LOT of which some are in the SHIP, whatever their order");
+        LendHouse y = new LendHouse();
+        act(y, 0, "lend");
+        y.order(0, 30);
+        for (int i = 0; i < 3; i++) {
+            y.ask(3, 0, 5, i);
+        }
+        y.weeks(1);
+        y.allot(0);
+        y.ship(100, 0);
+        int[] lots = {2, 1, 3, 1, 2, 3, 1};
+        for (int lot : lots) {
+            yes("lot " + lot, y.load(0, lot, 1));
+        }
+        due("lots", 3, y.led(0, 5));
+        y.sail(0, 3);
+        y.weeks(2);
+        due("landed of 1", 3, y.lot(1, 13));
+        due("landed of 2", 2, y.lot(2, 13));
+        due("landed of 3", 2, y.lot(3, 13));
         sentence("SHIPS: a SHIP that has come home is loaded anew");
         due("no LOTS", 0, x.led(0, 5));
         yes("loaded", x.load(0, 10, 3));
         yes("sails", x.sail(0, 3));
+    }
+
+    private static void allEightLand() {
+        sentence("SHIPS: outward: its crates are landed, of all 8 LOTS");
+        LendHouse x = new LendHouse();
+        act(x, 0, "lend");
+        for (int sort = 0; sort < 8; sort++) {
+            x.order(sort, 9);
+            x.ask(4, sort, 9, 0);
+        }
+        x.weeks(1);
+        x.ship(5000, 0);
+        for (int sort = 0; sort < 8; sort++) {
+            x.allot(sort);
+            x.label(8 + sort, 1 + sort);
+            yes("load", x.load(0, 8 + sort, 1 + sort));
+        }
+        x.sail(0, 4);
+        x.weeks(2);
+        due("MOOD: 36 less, 1 nearer", -35, x.land(4, 1));
+        for (int sort = 0; sort < 8; sort++) {
+            due("landed of SORT " + sort, 1 + sort, x.lot(8 + sort, 13));
+            due("landed there", 16, x.whence(1, sort, true));
+        }
+        due("landed in all", 36, x.balance(4, 2, 0));
+        sentence("NEED: of each SORT by itself");
+        for (int sort = 0; sort < 8; sort++) {
+            LendHouse y = landedOf(3, sort, 10, "lend");
+            for (int other = 0; other < 8; other++) {
+                y.need(3, other, 1 + other);
+            }
+            y.weeks(1);
+            due("used of SORT " + sort, 1 + sort, y.lot(1, 14));
+            due("hunger for all others", 36 - (1 + sort), y.land(3, 0));
+        }
     }
 
     private static void whereLoaded() {
@@ -341,8 +396,41 @@ public final class ShippingEdgesTest extends Checks {
         due("come back", 4, x.lot(back, 17));
         no("BACK goods that have come back", x.load(0, back, 1));
         no("BACK goods at home", x.load(0, other, 1));
+        yes("home again, for another LAND than the last time", x.load(0, 2, 2));
+        no("to the LAND of the last time", x.sail(0, 1));
+        yes("to that of its crates", x.sail(0, 2));
+        x.weeks(2);
+        due("landed", 2, x.land(2, 3));
+        yes("empty, home", x.sail(0, 0));
+        x.weeks(2);
         yes("empty, to any LAND", x.sail(0, 5));
         sentence("LOADED in a LAND: the TONS of all are not above HOLD");
+        LendHouse w = new LendHouse();
+        act(w, 0, "lend");
+        w.order(0, 20);
+        for (int land = 1; land <= 3; land++) {
+            w.ask(land, 0, 5, land);
+        }
+        w.weeks(1);
+        w.allot(0);
+        w.ship(100, 0);
+        w.ship(100, 0);
+        w.load(0, 2, 1);
+        no("a LOT for a LAND ahead of that", w.load(0, 1, 1));
+        no("a LOT for a LAND behind that", w.load(0, 3, 1));
+        for (int land = 0; land <= 5; land++) {
+            if (land != 2) {
+                no("to LAND " + land, w.sail(0, land));
+            }
+        }
+        w.sail(1, 2);
+        w.weeks(2);
+        int first = w.back(1, 0, 4);
+        int third = w.back(3, 0, 4);
+        int second = w.back(2, 0, 4);
+        no("BACK goods of a LAND ahead of that", w.load(1, first, 1));
+        no("BACK goods of a LAND behind that", w.load(1, third, 1));
+        yes("BACK goods of it", w.load(1, second, 1));
         LendHouse y = new LendHouse();
         y.ship(10, 0);
         y.sail(0, 4);
@@ -499,6 +587,31 @@ public final class ShippingEdgesTest extends Checks {
         due("3 and 4, 1 nearer", -6, x.land(1, 1));
     }
 
+    private static void moodsOfAllLands() {
+        sentence("A WEEK: MOOD of each LAND is 1 nearer to 0");
+        for (int land = 1; land <= 5; land++) {
+            LendHouse x = new LendHouse();
+            act(x, 0, "lend");
+            x.order(0, 5);
+            x.ask(land, 0, 5, 0);
+            x.weeks(1);
+            x.allot(0);
+            x.label(1, 3);
+            x.ship(5, 0);
+            x.load(0, 1, 5);
+            x.sail(0, land);
+            x.need(land, 7, 3);
+            x.weeks(2);
+            for (int week = 0; week < 4; week++) {
+                for (int other = 1; other <= 5; other++) {
+                    due("MOOD of " + other, other == land ? Math.min(0, week - 2) : 0, x.land(other, 1));
+                    due("HUNGER of " + other, other == land ? 3 * (week + 2) : 0, x.land(other, 0));
+                }
+                x.weeks(1);
+            }
+        }
+    }
+
     private static void weeks() {
         sentence("23: so many WEEKS, as far as WEEK may go; 0 to 60");
         LendHouse x = new LendHouse();
@@ -632,10 +745,12 @@ public final class ShippingEdgesTest extends Checks {
         risksTold();
         loads();
         eightLots();
+        allEightLand();
         whereLoaded();
         needs();
         moods();
         leastMood();
+        moodsOfAllLands();
         weeks();
         orderOfAWeek();
         hulls();

@@ -331,6 +331,15 @@ public final class TapeEdgesTest extends Checks {
         wrongAt("len", 0);
         wrongAt("lendd", 0);
         wrongAt("lendlend", 0);
+        wrongAt("lendz", 0);
+        wrongAt("lenda", 0);
+        wrongAt("zlend", 0);
+        wrongAt("alend", 0);
+        wrongAt("lend if landz<1", 8);
+        wrongAt("lend if landa<1", 8);
+        wrongAt("lend if 1<2andz 1<2", 11);
+        wrongAt("lend z", 5);
+        wrongAt("lend a", 5);
         wrongAt("l", 0);
         wrongAt("givee;lend", 0);
         wrongAt("giv", 0);

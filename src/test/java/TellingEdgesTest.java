@@ -74,6 +74,9 @@ public final class TellingEdgesTest extends Checks {
         }
         x.returned(1, 0, 1, 0);
         due("of an older WEEK: not the latest", 0, x.land(1, 6));
+        x.returned(1, 0, 2, 8);
+        x.returned(1, 0, 1, 100000);
+        due("of an older WEEK, with more crates: not the latest", 2, x.land(1, 6));
         x.returned(1, 0, 2, 4);
         due("of the same WEEK: the one that came last", 6, x.land(1, 6));
         x.returned(2, 0, 2, 0);
@@ -124,6 +127,41 @@ public final class TellingEdgesTest extends Checks {
         x.sail(0, 1);
         x.weeks(1);
         return x;
+    }
+
+    private static void eachLandAndSort() {
+        sentence("LANDS 1 to 5, SORTS 0 to 7: each by itself");
+        for (int land = 1; land <= 5; land++) {
+            for (int sort = 0; sort <= 7; sort++) {
+                LendHouse x = landedOf(land, sort, 10, "lend;mark 1 if had>9");
+                String here = " in LAND " + land + " of SORT " + sort;
+                x.ask(land, sort, 1, 0);
+                due("had" + here, 1, x.weigh(1, 0));
+                x.need(land, sort, 4);
+                due("may be" + here, 10, x.land(land, 7));
+                x.returned(land, sort, 2, 3);
+                x.returned(land, 7 - sort, 2, 0);
+                x.returned(land % 5 + 1, sort, 2, 0);
+                x.seen(land, sort, 11);
+                x.seen(land, 7 - sort, 30);
+                x.seen(land % 5 + 1, sort, 30);
+                due("unexplained" + here, 1, x.whence(land, sort, false));
+                due("landed by SHIPS" + here, 1 << land, x.whence(1, sort, true));
+                due("another SORT" + here, 0, x.whence(1, 7 - sort, true));
+                x.weeks(1);
+                due("used" + here, 4, x.lot(1, 14));
+                due("must be now" + here, 6, x.mustBe(land, sort, 3));
+                for (int other = 1; other <= 5; other++) {
+                    due("sure of " + other + here, other == land ? 7 : 0, x.land(other, 6));
+                    due("may be of " + other + here, other == land ? 7 : 0, x.land(other, 7));
+                    due("balance of " + other + here, other == land ? 10 : 0, x.balance(other, 2, 0));
+                    due("hunger of " + other + here, 0, x.land(other, 0));
+                    for (int goods = 0; goods <= 7; goods++) {
+                        due("must be" + here, other == land && goods == sort ? 10 : 0, x.mustBe(other, goods, 2));
+                    }
+                }
+            }
+        }
     }
 
     private static void torn() {
@@ -222,6 +260,11 @@ public final class TellingEdgesTest extends Checks {
         due("none landed there", 4, z.whence(3, 0, false));
         z.seen(1, 1, 4);
         due("none of that SORT", 4, z.whence(1, 1, false));
+        z.seen(5, 7, 50);
+        for (int land = 1; land <= 5; land++) {
+            due("SEEN in another LAND", land == 5 ? 50 : 0, z.whence(land, 7, false));
+        }
+        due("SEEN of another SORT", 0, z.whence(5, 6, false));
         z.over();
         due("behind THE END", 1, z.whence(1, 0, false));
     }
@@ -365,6 +408,7 @@ public final class TellingEdgesTest extends Checks {
         returns();
         mustBe();
         missing();
+        eachLandAndSort();
         torn();
         check();
         seen();

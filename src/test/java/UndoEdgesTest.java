@@ -13,7 +13,7 @@ public final class UndoEdgesTest extends Checks {
         x.sort(0, 7, 7, 7, 7);
         x.sort(7, 7, 7, 7, 7);
         x.price(0, week, 777);
-        x.works(77, 777);
+        x.works(77, 0);
         x.order(3, 77);
         x.ask(4, 0, 77, 77);
         x.label(5, 7);
@@ -194,6 +194,37 @@ public final class UndoEdgesTest extends Checks {
         });
     }
 
+    private static void undoAndTheEnd() {
+        sentence("UNDO: of what was ahead of THE END: THE END, too, is as it was");
+        LendHouse x = landed(5, "lend");
+        due("over", 5, x.over());
+        due("over again", NONE, x.over());
+        yes("undo of the WEEK ahead of it", x.undo());
+        due("no end", 0, x.count(11));
+        due("at sea", 1, x.led(0, 0));
+        due("week", 1, x.count(0));
+        due("no crate is landed", 0, x.over());
+        due("the end", 1, x.count(11));
+        sentence("UNDO: of WEEKS behind THE END");
+        due("weeks", 3, x.weeks(2));
+        yes("undo", x.undo());
+        due("week", 1, x.count(0));
+        due("THE END stays", 1, x.count(11));
+        due("it was", NONE, x.over());
+        no("once", x.undo());
+        due("weeks to the last one", 500, toTheLast(x));
+        due("none is left", 500, x.weeks(60));
+        yes("undo of the last ones", x.undo());
+        due("week", 481, x.count(0));
+    }
+
+    private static int toTheLast(LendHouse x) {
+        for (int i = 0; i < 8; i++) {
+            x.weeks(60);
+        }
+        return x.weeks(60);
+    }
+
     private static void tapeStays() {
         sentence("UNDO: (the TAPE and fault() stay)");
         LendHouse x = new LendHouse();
@@ -286,6 +317,30 @@ public final class UndoEdgesTest extends Checks {
         due("the end is kept", 1, w.count(11));
     }
 
+    private static void firstActs() {
+        sentence("THE IMAGE of all: the ACT that came first, too");
+        LendHouse x = new LendHouse();
+        x.weeks(1);
+        act(x, 1, "lend;lend");
+        x.keep();
+        yes("undo", x.undo());
+        due("no ACT", 0, x.count(3));
+        due("another one", 1, act(x, 0, "mark 7"));
+        due("lines", 1, x.count(4));
+        yes("again", x.again());
+        due("the first one", 2, x.count(4));
+        LendHouse y = new LendHouse();
+        y.keep();
+        act(y, 0, "lend;lend");
+        y.weeks(1);
+        act(y, 1, "give");
+        yes("undo", y.undo());
+        due("the first one", 2, y.count(4));
+        yes("again", y.again());
+        due("none", 0, y.count(3));
+        due("none", 0, y.count(4));
+    }
+
     private static void booksOfImages() {
         sentence("MUST BE: of WEEKS that are gone through again behind UNDO and THE IMAGE");
         LendHouse x = landed(600, "lend");
@@ -329,8 +384,10 @@ public final class UndoEdgesTest extends Checks {
         nothingToUndo();
         lastOfFive();
         allIsAsItWas();
+        undoAndTheEnd();
         tapeStays();
         images();
+        firstActs();
         booksOfImages();
         finish();
     }
