@@ -716,6 +716,34 @@ public final class ShippingEdgesTest extends Checks {
         due("the seventh is the sixth now", 5, y.hulls(6));
         due("the eighth", NONE, y.hulls(7));
         due("least lost", 3000000, y.hulls(NONE));
+        LendHouse w = lent(9, "lend");
+        for (int ship = 0; ship < 5; ship++) {
+            w.ship(10, 63);
+        }
+        w.way(1, 1);
+        w.load(0, 1, 5);
+        w.sail(1, 1);
+        w.sail(2, 2);
+        w.sail(3, 3);
+        w.risk(3, 2, 100);
+        w.weeks(1);
+        w.tons(4, 20);
+        due("in a LAND's port, at sea and lost are none of those", 0, w.hulls(NONE));
+        int[] goals = {4, NONE, NONE, NONE, 4};
+        for (int ship = 0; ship < 5; ship++) {
+            due("SHIP " + ship, goals[ship], w.hulls(ship));
+        }
+        w.tons(4, 21);
+        due("not enough at home", NONE, w.hulls(NONE));
+        w.tons(4, 0);
+        due("nothing is told", 0, w.hulls(0));
+        w.tons(1, 10);
+        w.risk(1, 3, 5);
+        due("the RISK of the next WEEK", 50, w.hulls(NONE));
+        w.weeks(1);
+        due("the RISK stays", 50, w.hulls(NONE));
+        w.over();
+        due("behind THE END", 50, w.hulls(NONE));
         sentence("HULLS: WHICH: of several that in which the first SHIP goes to the least LAND (0: none)");
         LendHouse z = new LendHouse();
         z.ship(10, 0);
